@@ -15,10 +15,9 @@ public final class NewObjectTest {
         Talk.end();
     }
 
-    /** Fills the heap by vectors of one word, then asks for one word too many. */
+    /** Fills the heap by a chain of cells, of two words each; then one word is left if SIZE is odd. */
     private static void sizeIs(int size, int want) {
         Talk talk = new Talk(size);
-        // a closure of 2 words and its frame of 2 words stay, the chain of cells and vectors grows
         talk.said("(set n 0)(set l nil)(while t(set l(cons l nil))(set n(+ n 2)))", "2 1 IllegalStateException");
         Talk.due("cells' words in size " + size, Integer.toString(talk.machine.number(4)), Integer.toString(want / 2 * 2));
         talk.counts(0, want / 2 * 2);
