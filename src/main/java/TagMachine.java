@@ -1369,7 +1369,8 @@ public final class TagMachine {
                 case LEN:
                     return lengthOf(a);
                 case PRINT:
-                    printer.print(a);
+                    printer.write(a, 0);
+                    printer.endLine();
                     return a;
                 case GET:
                     return input.size == 0 ? Word.NIL : Word.of(Word.NUMBER, input.removeOldest());
@@ -1560,12 +1561,12 @@ public final class TagMachine {
             this.output = output;
         }
 
-        void print(int word) {
-            write(word, 0);
+        void endLine() {
             output.add(NEW_LINE);
         }
 
-        private void write(int word, int depth) {
+        /** Writes a value that stands within so many others. */
+        void write(int word, int depth) {
             switch (Word.tag(word)) {
                 case Word.NUMBER:
                     writeNumber(Word.held(word));

@@ -38,6 +38,7 @@ final class Talk {
                 answers.append(answers.length() == 0 ? "" : " ").append(answer);
             }
         }
+        notTooLong();
         return answers.toString();
     }
 
@@ -49,11 +50,15 @@ final class Talk {
             text.append((char) machine.take());
         }
         typed += length + 1;
+        notTooLong();
+        return text.toString();
+    }
+
+    private void notTooLong() {
         if (typed > 512) {
             wrong++;
             System.out.println("the test talks too long: nothing is promised behind the 512th call");
         }
-        return text.toString();
     }
 
     void said(String text, String want) {
