@@ -416,8 +416,8 @@ public final class TagMachine {
         int collections;
 
         Heap(int size) {
-            this.size = size;
-            memory = new int[READ_WORDS + 2 * size];
+            this.size = Math.max(size, 0);
+            memory = new int[READ_WORDS + 2 * this.size];
         }
 
         int at(int address) {
@@ -682,7 +682,7 @@ public final class TagMachine {
         }
 
         private int openOne(boolean quote) {
-            if (open >= MOST_OPEN) {
+            if (open < 0 || open >= MOST_OPEN) {
                 return refuse();
             }
             isQuote[open] = quote;

@@ -304,6 +304,10 @@ public final class RefusedCallsTest {
             talk.counts(9, values);
             talk.counts(10, faults);
         }
+        talk.say("(do(car 5)");
+        talk.machine.cancel();
+        talk.counts(9, values);
+        talk.counts(10, faults);
     }
 
     /** "An object is used for at most 512 calls": the 512th is one of them. */
